@@ -453,7 +453,7 @@ public final class SootTalk {
     }
 
     private static boolean isBend(int bend) {
-        return isBelow(bend, BENDS);
+        return bend >= 0 && bend < BENDS;
     }
 
     private static boolean isWord(int word) {
@@ -857,6 +857,7 @@ public final class SootTalk {
             from = to;
             while (from < length && at(from) == ' ') from++;
             to = from;
+            value = 0;
             if (from >= length) {
                 token = END;
             } else if (isLetter(at(from))) {
@@ -864,43 +865,30 @@ public final class SootTalk {
                 while (to < length && isLetter(at(to))) to++;
             } else if (isDigit(at(from))) {
                 token = NUMBER;
-                stepOverDigits();
+                // held just above what may be, so that no row of digits can wrap around to a number that may
+                for (; to < length && isDigit(at(to)); to++) value = Math.min(LARGEST + 1, 10 * value + at(to) - '0');
             } else {
                 token = at(from) == ';' ? SIGN : STRANGE;
                 to++;
             }
         }
 
-        private void stepOverDigits() {
-            value = 0;
-            while (to < length && isDigit(at(to))) {
-                // held just above what may be, so that no row of digits can wrap around to a number that may
-                value = Math.min(LARGEST + 1, 10 * value + at(to) - '0');
-                to++;
-            }
-        }
-
-        boolean isName(String name) {
+        /** Whether a name is at hand, which is passed then. */
+        boolean pass(String name) {
             if (token != NAME || to - from != name.length()) return false;
             for (int i = 0; i < name.length(); i++) {
                 if (at(from + i) != name.charAt(i)) return false;
             }
+            step();
             return true;
         }
 
-        /** The number at hand, which is passed then; or -1, and it stays at hand. */
-        int numberBelow(int bound) {
+        /** The number at hand, which is passed then; or -1 if there is none that may be, and it stays at hand. */
+        int passNumber(int bound) {
             if (token != NUMBER || value >= bound) return -1;
             int number = value;
             step();
             return number;
-        }
-
-        /** The number behind a name; what is due without that name; or -1, with what can't stand there at hand. */
-        int numberAfter(String name, int bound, int without) {
-            if (!isName(name)) return without;
-            step();
-            return numberBelow(bound);
         }
 
         private static boolean isLetter(int b) {
@@ -914,16 +902,29 @@ public final class SootTalk {
 
     /** The text of a house. Wherever it stops, the token at hand is the one that can't stand there. */
     private static final class Text {
-        private boolean isDone = false;
-        private int flues = 0;
+        private static final int NEW_FLUE = 0;
+        private static final int SAYING = 1;
+        private static final int NEW_LAYER = 2;
+        private static final int NEW_DAMP = 3;
 
-        /** How many items there are, or -1 less the place of the fault; the items are done only if that is asked. */
-        int goThrough(Tape tape, Stack stack, boolean isDoneToo) {
-            isDone = isDoneToo;
+        private int flues = 0;
+        // the item that was passed last
+        private int item = NEW_FLUE;
+        private int kind = 0;
+        private int flue = 0;
+        private int bend = 0;
+        private int word = 0;
+        private int voice = 0;
+        private int cake = 0;
+        private int damp = 0;
+
+        /** How many items there are, or -1 less the place of the fault; they come to what there is only if that is asked. */
+        int goThrough(Tape tape, Stack stack, boolean isDone) {
             flues = stack.flues;
             tape.begin();
             for (int items = 1; items <= Tape.LONGEST; items++) {
-                if (!passItem(tape, stack)) break;
+                if (!passItem(tape)) break;
+                if (isDone) perform(stack);
                 if (tape.token == Tape.END) return items;
                 if (tape.token != Tape.SIGN) break;
                 tape.step();
@@ -931,56 +932,66 @@ public final class SootTalk {
             return -1 - tape.from;
         }
 
-        private boolean passItem(Tape tape, Stack stack) {
-            if (tape.isName("say")) return passSay(tape, stack);
-            if (tape.isName("layer")) return passLayer(tape, stack);
-            if (tape.isName("damp")) return passDamp(tape, stack);
-            for (int kind = 0; kind < KINDS; kind++) {
-                if (tape.isName(Kinds.name(kind))) return passFlue(tape, stack, kind);
+        private boolean passItem(Tape tape) {
+            if (tape.pass("say")) return passSaying(tape);
+            if (tape.pass("layer")) return passLayer(tape);
+            if (tape.pass("damp")) return passDamp(tape);
+            // a name of a kind is the fault itself where no flue may come: it isn't passed then
+            for (int k = 0; k < KINDS && flues < FLUES; k++) {
+                if (tape.pass(Kinds.name(k))) return passFlue(k);
             }
             return false;
         }
 
-        private boolean passFlue(Tape tape, Stack stack, int kind) {
-            if (flues >= FLUES) return false;
+        private boolean passFlue(int named) {
+            item = NEW_FLUE;
+            kind = named;
             flues++;
-            if (isDone) stack.addFlue(kind);
-            tape.step();
             return true;
         }
 
-        private boolean passSay(Tape tape, Stack stack) {
-            tape.step();
-            int flue = tape.numberBelow(flues);
+        private boolean passSaying(Tape tape) {
+            item = SAYING;
+            flue = tape.passNumber(flues);
             if (flue < 0) return false;
-            int word = tape.numberBelow(WORDS);
+            word = tape.passNumber(WORDS);
             if (word < 0) return false;
-            int voice = tape.numberAfter("voice", VOICES, PLAIN_VOICE);
-            if (voice < 0) return false;
-            if (isDone) stack.speak(flue, word, voice);
-            return true;
+            voice = tape.pass("voice") ? tape.passNumber(VOICES) : PLAIN_VOICE;
+            return voice >= 0;
         }
 
-        private boolean passLayer(Tape tape, Stack stack) {
-            tape.step();
-            int flue = tape.numberBelow(flues);
+        private boolean passLayer(Tape tape) {
+            item = NEW_LAYER;
+            flue = tape.passNumber(flues);
             if (flue < 0) return false;
-            int bend = tape.numberBelow(BENDS);
+            bend = tape.passNumber(BENDS);
             if (bend < 0) return false;
-            int word = tape.numberBelow(WORDS);
+            word = tape.passNumber(WORDS);
             if (word < 0) return false;
-            int cake = tape.numberAfter("cake", MOST_CAKE + 1, 0);
-            if (cake < 0) return false;
-            if (isDone) stack.lay(flue, bend, word, cake);
-            return true;
+            cake = tape.pass("cake") ? tape.passNumber(MOST_CAKE + 1) : 0;
+            return cake >= 0;
         }
 
-        private boolean passDamp(Tape tape, Stack stack) {
-            tape.step();
-            int damp = tape.numberBelow(DAMPS);
-            if (damp < 0) return false;
-            if (isDone) stack.damp = damp;
-            return true;
+        private boolean passDamp(Tape tape) {
+            item = NEW_DAMP;
+            damp = tape.passNumber(DAMPS);
+            return damp >= 0;
+        }
+
+        private void perform(Stack stack) {
+            switch (item) {
+                case SAYING:
+                    stack.speak(flue, word, voice);
+                    break;
+                case NEW_LAYER:
+                    stack.lay(flue, bend, word, cake);
+                    break;
+                case NEW_DAMP:
+                    stack.damp = damp;
+                    break;
+                default:
+                    stack.addFlue(kind);
+            }
         }
     }
 

@@ -16,7 +16,7 @@ final class BestTest {
     }
 
     private static void reach() {
-        SootTalk x = BrushesTest.laid();
+        SootTalk x = BrushesTest.laidInDamp();
         Due.is("18: none wanted", x.reach(0, 0, 1), 0);
         Due.is("18: on bend 3", x.reach(0, Due.set(4), 2), 3);
         Due.is("18: lowest of two", x.reach(0, Due.set(1), 9), 0);
@@ -31,7 +31,7 @@ final class BestTest {
     }
 
     private static void strength() {
-        SootTalk x = BrushesTest.laid();
+        SootTalk x = BrushesTest.laidInDamp();
         Due.is("19: none wanted", x.strength(0, 0, 0), 1);
         Due.is("19: loose under cake 5", x.strength(0, 0, Due.set(3)), 6);
         Due.is("19: cake 1", x.strength(0, 7, Due.set(4)), 2);
@@ -46,7 +46,7 @@ final class BestTest {
     }
 
     private static void secret() {
-        SootTalk x = BrushesTest.laid();
+        SootTalk x = BrushesTest.laidInDamp();
         Due.is("20: none and none", x.secret(0, 0, 0), 1);
         Due.is("20: without others", x.secret(0, Due.set(4), Due.set(1)), 32);
         Due.is("20: least bend before least strength", x.secret(0, Due.set(1), 0), 3);
@@ -62,7 +62,7 @@ final class BestTest {
     private static void fewest() {
         SootTalk x = Due.withFlues(0, 0, 0, 0, 0, 0);
         Due.house(x, "say 0 1;say 1 2;say 1 3;say 2 1;say 2 4;say 3 3;say 3 4;layer 5 7 1 cake 3;say 5 2");
-        Due.house(x, "layer 5 7 3 cake 3;layer 5 6 4 cake 3");
+        Due.house(x, "layer 5 7 3 cake 3;layer 5 6 4 cake 3;damp 9");
         Due.is("21: none wanted", x.fewest(0, 1), 0);
         Due.is("21: least of one", x.fewest(Due.set(1), 1), Due.set(0));
         Due.is("21: least of two flues", x.fewest(Due.set(1, 3), 1), Due.set(0, 1));
@@ -121,6 +121,7 @@ final class BestTest {
         Due.is("24: it doesn't lie there", x.covers(0, 2, 9), Due.NONE);
         x.days(2);
         Due.is("24: gone", x.covers(2, 3, 2), Due.NONE);
+        Due.is("24: gone, and the other doesn't lie there", x.covers(2, 3, 9), Due.NONE);
         Due.house(x, "layer 0 5 4;layer 0 5 4;layer 0 5 4;layer 0 5 4;layer 0 5 4;layer 0 5 4");
         Due.is("24: by a full bend above", x.covers(0, 9, 2), 2);
         Due.is("24: not on a full one", x.covers(0, 9, 4), Due.NONE);
@@ -146,12 +147,13 @@ final class BestTest {
         Due.is("25: words -1", x.kind(0, -1, 0), Due.BEYOND);
         Due.is("25: voice 10", x.kind(0, 0, 10), Due.BEYOND);
         Due.is("25: voice -1", x.kind(0, 0, -1), Due.BEYOND);
-        // bend 0 is full, so what the crooked flue keeps low is gone there: word 0 wants room above
         SootTalk y = Due.withFlues(1);
         for (int i = 0; i < 6; i++) y.say(0, 0, 9);
-        Due.is("25: shut has no room, flue has", y.kind(0, Due.set(0, 8), 0), 0);
-        // a flue without room but on bend 7: only the queens' plot comes there with voice 9
-        Due.is("25: queens alone", y.kind(0, Due.set(14, 15), 9), 4);
+        Due.is("25: bend 0 is full: flue has room above it", y.kind(0, Due.set(0, 8), 0), 0);
+        Due.is("25: with voice 9 only the plot finds room", y.kind(0, Due.set(14, 15), 9), 4);
+        y.turn(0, 0);
+        for (int i = 0; i < 42; i++) y.say(0, 1, 0);
+        Due.is("25: no room for any", y.kind(0, 65535, 0), 0);
     }
 
     private static void best() {
@@ -163,6 +165,8 @@ final class BestTest {
         Due.is("26: of several the least", x.best(Due.set(1), 0), 3);
         Due.is("26: crooked is as high with 7", x.best(Due.set(7), 0), 2);
         Due.is("26: all are low", x.best(65535, 9), 0);
+        Due.is("26: word 0", x.best(Due.set(0), 0), 3);
+        Due.is("26: word 15", x.best(Due.set(15), 1), 2);
         Due.is("26: words -1", x.best(-1, 0), Due.BEYOND);
         Due.is("26: voice 10", x.best(0, 10), Due.BEYOND);
         Due.is("26: voice -1", x.best(0, -1), Due.BEYOND);
@@ -195,6 +199,10 @@ final class BestTest {
         Due.is("27: two unlike", x.richest(0), 6);
         Due.house(x, "layer 0 3 7;layer 0 3 9");
         Due.is("27: of several the least", x.richest(0), 3);
+        Due.house(x, "layer 0 0 0;layer 0 0 15;layer 0 0 3");
+        Due.is("27: bend 0", x.richest(0), 0);
+        Due.house(x, "layer 0 7 0;layer 0 7 15;layer 0 7 3;layer 0 7 4");
+        Due.is("27: bend 7", x.richest(0), 7);
         Due.is("27: flue 1", x.richest(1), Due.BEYOND);
         Due.is("27: flue -1", x.richest(-1), Due.BEYOND);
     }

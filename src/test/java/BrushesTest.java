@@ -8,6 +8,13 @@ final class BrushesTest {
         Due.end();
     }
 
+    /** As laid(), with damp: a brush that is put up a day late brings less. */
+    static SootTalk laidInDamp() {
+        SootTalk x = laid();
+        x.damp(9);
+        return x;
+    }
+
     /** Bend 0, from the top: 1 (cake 2), 2 (cake 5), 3 (loose). Bend 3: 4 (cake 1). Bend 7: 5 (cake 8), 1 (cake 9). */
     static SootTalk laid() {
         SootTalk x = Due.withFlues(0);
@@ -17,7 +24,7 @@ final class BrushesTest {
     }
 
     private static void sweep() {
-        SootTalk x = laid();
+        SootTalk x = laidInDamp();
         Due.is("14: cake 2 stays for strength 2", x.sweep(0, 2, 2), 0);
         Due.is("14: the bend above comes all the same", x.sweep(0, 3, 2), 1);
         Due.is("14: it is gone", x.bend(0, 3, 0), 0);
@@ -45,7 +52,7 @@ final class BrushesTest {
     }
 
     private static void brought() {
-        SootTalk x = laid();
+        SootTalk x = laidInDamp();
         Due.is("15: none", x.brought(0, 2, 2), 0);
         Due.is("15: one bend", x.brought(0, 0, 3), Due.set(1));
         Due.is("15: two bends", x.brought(0, 3, 3), Due.set(1, 4));
@@ -54,7 +61,7 @@ final class BrushesTest {
     }
 
     private static void order() {
-        SootTalk x = laid();
+        SootTalk x = laidInDamp();
         int[] words = {1, 2, 3, 4, 5};
         for (int k = 0; k < words.length; k++) Due.is("16: word " + k, x.order(0, 7, 9, k), words[k]);
         Due.is("16: so many don't come", x.order(0, 7, 9, 5), Due.NONE);

@@ -34,6 +34,7 @@ final class ImagesTest {
             Due.is("38: cake", x.layer(0, 2, 0, 1), 1);
             Due.is("38: cake of the other", x.layer(1, 7, 0, 1), 5);
             x.sweep(0, 7, 9);
+            x.say(0, 6, 5);
             x.cake(1, 7, 0, 0);
         }
         x.undo();

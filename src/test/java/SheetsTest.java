@@ -15,10 +15,12 @@ final class SheetsTest {
         for (int bits : new int[] {8, 16, 64}) {
             Due.is("31: forty", x.sheet(3, bits, 40), 40);
             Due.is("31: all 0", x.write(3, 39, 7), 0);
+            Due.is("31: the first, too", x.write(3, 0, 7), 0);
             Due.is("31: none at all", x.sheet(3, bits, 0), 0);
             Due.is("31: that is no missing one", x.write(3, 0, 0), Due.BEYOND);
             Due.is("31: again", x.sheet(3, bits, 40), 40);
             Due.is("31: 0 again", x.write(3, 39, 0), 0);
+            Due.is("31: the first is 0 again", x.write(3, 0, 0), 0);
         }
         Due.is("31: missing", x.sheet(3, 0, 40), 0);
         Due.is("31: is missing", x.write(3, 0, 0), Due.MISSING);
@@ -131,7 +133,7 @@ final class SheetsTest {
     }
 
     private static void book() {
-        SootTalk x = BrushesTest.laid();
+        SootTalk x = BrushesTest.laidInDamp();
         x.flue(0);
         wrongSheets(x, 35);
         for (int bits : new int[] {8, 16, 64}) {
@@ -148,7 +150,7 @@ final class SheetsTest {
     }
 
     private static void read() {
-        SootTalk x = BrushesTest.laid();
+        SootTalk x = BrushesTest.laidInDamp();
         x.flue(0);
         wrongSheets(x, 36);
         x.sheet(0, 64, 5);

@@ -74,6 +74,10 @@ final class TextTest {
         Due.is("30: loose", x.layer(0, 6, 0, 1), 0);
         Due.is("30: zeros ahead", Due.house(x, "damp 0000000000000007"), 1);
         Due.is("30: damp 7", x.now(1), 7);
+        Due.is("30: all that is 0", Due.house(x, "damp 0;say 0 0 voice 0;layer 0 0 0 cake 0"), 3);
+        Due.is("30: damp 0", x.now(1), 0);
+        Due.is("30: word 0 on 7", x.layer(0, 7, 0, 0), 0);
+        Due.is("30: word 0 on 0", x.layer(0, 0, 0, 0), 0);
     }
 
     private static void roomInTheText() {
@@ -96,13 +100,17 @@ final class TextTest {
             "say 0 15 voice ;", "say x 1", "say 0 1 2", "say 0 1 voice 1 voice 1", "say;",
             "layer 0 8 1", "layer 1 0 1", "layer 0 7 16", "layer 0 7 15 cake 10", "layer 0 7 15 voice 1", "layer 0 7",
             "damp", "damp 10", "damp x", "damp 9 9", "damp 4294967296", "damp 1000", "say 0 4294967297",
-            "flue;say 2 1", "flue;say 1 1;wide $", "wide,", "voice 1", "cake", "damp -1", "\u00e4", "shut;damp 1\u0000"};
+            "flue;say 2 1", "flue;say 1 1;wide $", "wide,", "voice 1", "cake", "damp -1", "\u00e4", "shut;damp 1\u0000",
+            "fluez", "aflue", "xay 0 1", "xlue", "say;flue", "say 0;flue", "say 0 1 voice;flue", "layer;flue",
+            "layer 0;flue", "layer 0 1;flue", "layer 0 1 2 cake;flue", "damp;flue"};
         int[] places = {0, 3, 0, 5, 6, 6, 5, 5, 0, 0, 4,
             3, 4, 5, 4, 6, 14, 15, 9,
             15, 4, 8, 16, 3,
             8, 6, 10, 18, 13, 9,
             4, 5, 5, 7, 5, 5, 6,
-            9, 18, 4, 0, 0, 5, 0, 11};
+            9, 18, 4, 0, 0, 5, 0, 11,
+            0, 0, 0, 0, 3, 5, 13, 5,
+            7, 9, 16, 4};
         Due.is("30: as many places as texts", places.length, texts.length);
         for (int i = 0; i < texts.length; i++) {
             SootTalk x = Due.withFlues(0);
