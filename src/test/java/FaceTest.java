@@ -6,7 +6,9 @@ import java.lang.reflect.Method;
 import java.lang.reflect.Modifier;
 import java.nio.file.Files;
 import java.nio.file.Path;
+import java.util.ArrayList;
 import java.util.Arrays;
+import java.util.List;
 import java.util.Set;
 import java.util.TreeSet;
 import java.util.regex.Matcher;
@@ -24,10 +26,17 @@ final class FaceTest {
         "long write(int,int,long)", "int copy(int,int,int,int,int)", "int lays(int,int)", "int book(int,int)",
         "int read(int,int)", "int image()", "int undo()", "int tear()", "int count(int)", "int status(int)"};
 
+    private static final Path DOC = Path.of("../shared/DOC.md");
+    private static final Pattern METHOD =
+        Pattern.compile("(?m)^    public (int|long) (\\w+)\\(([^)]*)\\)|^    // (---- .*)$");
+    private static final Pattern AHEAD = Pattern.compile("(?m)^Ahead of the calls (.*) the interface says: (---- .*)[.]$");
+
     public static void main(String[] args) throws IOException {
         face();
         nestedClasses();
-        words(Files.readString(Path.of("src/main/java/SootTalk.java")));
+        String source = Files.readString(Path.of("src/main/java/SootTalk.java"));
+        words(source);
+        if (Files.isReadable(DOC)) asInDocument(Files.readString(DOC), source);
         Due.end();
     }
 
@@ -73,6 +82,28 @@ final class FaceTest {
                 Due.is("rule 11: seven parameters " + m, m.getParameterCount() <= 7 ? 1 : 0, 1);
             }
         }
+    }
+
+    /** The document's own face, and what its interface says ahead of which calls, in their order. */
+    private static void asInDocument(String doc, String source) {
+        Set<String> face = new TreeSet<>();
+        Matcher m = METHOD.matcher(doc);
+        while (m.find()) {
+            String types = m.group(3).replaceAll("(int|long) \\w+", "$1").replace(" ", "");
+            face.add(m.group(1) + " " + m.group(2) + "(" + types + ")");
+        }
+        Due.is("face: as in the document " + face, face.equals(new TreeSet<>(Arrays.asList(FACE))) ? 1 : 0, 1);
+        List<String> due = new ArrayList<>();
+        for (m = AHEAD.matcher(doc); m.find(); ) {
+            due.add(m.group(2));
+            due.addAll(Arrays.asList(m.group(1).replace("`", "").split(", ")));
+        }
+        List<String> seen = new ArrayList<>();
+        for (m = METHOD.matcher(source); m.find(); ) {
+            String told = m.group(2) == null ? m.group(4) : m.group(2);
+            if (due.contains(told)) seen.add(told);
+        }
+        Due.is("face: ahead of the calls " + seen, seen.equals(due) ? 1 : 0, 1);
     }
 
     private static void words(String source) {
